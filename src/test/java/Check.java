@@ -2,6 +2,8 @@
 final class Check {
     private int wrong = 0;
     private int checks = 0;
+    private int sentences = 0;
+    private int broken = 0;
 
     void due(String what, Object got, Object want) {
         checks++;
@@ -13,7 +15,28 @@ final class Check {
         }
     }
 
+    /** The test of one sentence of the document; it is told apart from the others how it ended. */
+    void sentence(String words, Runnable test) {
+        int wrongBefore = wrong;
+        int checksBefore = checks;
+        try {
+            test.run();
+        } catch (RuntimeException | StackOverflowError thrown) {
+            thrown.printStackTrace(System.out);
+            due("a call", thrown, "an answer");
+        }
+        due("the number of checks grows", checks > checksBefore, true);
+        sentences++;
+        if (wrong > wrongBefore) {
+            broken++;
+            System.out.println("BROKEN: " + words);
+        }
+    }
+
     void end() {
+        if (sentences > 0) {
+            System.out.println(sentences + " sentences, " + broken + " of them broken");
+        }
         System.out.println(checks + " answers, " + wrong + " of them wrong");
         if (wrong != 0 || checks == 0) {
             System.exit(1);
