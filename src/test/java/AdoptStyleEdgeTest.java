@@ -9,7 +9,8 @@ public final class AdoptStyleEdgeTest {
     private static final int MOST_CALLS = 512;
 
     public static void main(String[] args) {
-        CHECK.sentence("Tree 0, 1 or 2 becomes what the RESULT is (which stays).", AdoptStyleEdgeTest::becomesTheResult);
+        CHECK.sentence("Tree 0, 1 or 2 becomes what the RESULT is (which stays).",
+                AdoptStyleEdgeTest::becomesTheResult);
         CHECK.sentence("false, changing nothing, when tree is not 0 .. 2", AdoptStyleEdgeTest::adoptRefusesTrees);
         CHECK.sentence("there was no merge yet", AdoptStyleEdgeTest::adoptRefusesBeforeAMerge);
         CHECK.sentence("or the RESULT has more than 8 files", AdoptStyleEdgeTest::adoptRefusesManyFiles);
@@ -80,7 +81,8 @@ public final class AdoptStyleEdgeTest {
             CHECK.due("9 files", m.adopt(tree), false);
             CHECK.due("the tree stays", m.size(tree), new int[] {0, 5, 4}[tree]);
         }
-        RenameMerge full = Scene.merged(50, "", "0:1 1:1 2:1 3:1 4:1 5:1 6:1 7:1", "8:1 9:1 10:1 11:1 12:1 13:1 14:1 63:1");
+        RenameMerge full = Scene.merged(50, "", "0:1 1:1 2:1 3:1 4:1 5:1 6:1 7:1",
+                "8:1 9:1 10:1 11:1 12:1 13:1 14:1 63:1");
         CHECK.due("16 files", full.adopt(0), false);
         full.copy(0, 2);
         CHECK.due("the result is still of 16 files", full.adopt(0), false);

@@ -101,6 +101,7 @@ public final class MergeEdgeTest {
     }
 
     private static void renamedByOne() {
+        CHECK.sentence("for each path p in rising order that is renamed by a side", MergeEdgeTest::eachRenamedPath);
         CHECK.sentence("V_t has a file at p: if V_t has none at x, V0's and V_t's files at p go to x",
                 MergeEdgeTest::goesToX);
         CHECK.sentence("if it has one there, the file of V_s at x becomes the file merge (at x)", MergeEdgeTest::onto);
@@ -112,6 +113,18 @@ public final class MergeEdgeTest {
                 MergeEdgeTest::ontoBesides);
         CHECK.sentence("V_t has none at p: conflict GONE at x, and V0's file at p goes to x", MergeEdgeTest::gone);
         CHECK.sentence("or is taken away if V_t has a file at x.", MergeEdgeTest::goneWithAFile);
+    }
+
+    private static void eachRenamedPath() {
+        for (int p = 0; p < 64; p++) {
+            int x = (p + 9) % 64;
+            RenameMerge m = Scene.merged(50, p + ":1234", x + ":1235", p + ":6234");
+            expect(m, x + ":6235", "");
+            m = Scene.merged(50, p + ":1234", p + ":6234", x + ":1235");
+            expect(m, x + ":6235", "");
+            m = Scene.merged(50, p + ":1234", x + ":1235", x + ":6234");
+            expect(m, x + ":6235", "");
+        }
     }
 
     private static void goesToX() {
@@ -173,6 +186,8 @@ public final class MergeEdgeTest {
             CHECK.due("no conflict at p", m.conflict(1), 0);
             CHECK.due("nothing staged at p", Scene.staged(m, 1), "none none none");
             CHECK.due("no V0 at x", m.staged(0, 9), NONE);
+            CHECK.due("the files beside p are merged as ever", Scene.conflicts(
+                    Scene.mergedBy(side, "0:1 1:1234 2:2", "0:1 2:2 9:1235", "0:3 2:4 1:1234 9:")), "9:" + ONTO);
             CHECK.due("one file", m.size(3), 1);
             CHECK.due("the tree stays", Scene.tree(m, 3 - side), "1:6234 9:ab");
             CHECK.due("BASE stays", Scene.tree(m, 0), "1:1234");
@@ -219,6 +234,8 @@ public final class MergeEdgeTest {
             expectStaged(m, 9, inOrder(side, "none", "(1235)", "()"));
             m = Scene.mergedBy(side, "1:1234", "9:1234", "9~1234");
             expect(m, side == 1 ? "9:1234" : "9~1234", "9:" + (GONE + KINDS));
+            m = Scene.mergedBy(side, "0:1 1:1234 2:2", "0:1 2:2 9:1234", "0:3 2:4 9~1234");
+            CHECK.due("the files beside p are merged as ever", Scene.conflicts(m), "9:" + (GONE + KINDS));
         }
     }
 
@@ -230,6 +247,9 @@ public final class MergeEdgeTest {
         CHECK.sentence("(A text of the RESULT has at most 76 lines.)", MergeEdgeTest::longestTextInOtherStyles);
         CHECK.sentence("Merges OURS and THEIRS over BASE; these three stay", MergeEdgeTest::treesStay);
         CHECK.sentence("(and stay so, whatever becomes of the trees, till the next)", MergeEdgeTest::toldStays);
+        String latest = "the RESULT and all that is told of the latest merge become this one's";
+        CHECK.sentence(latest, MergeEdgeTest::nothingStaysAtAnyPath);
+        CHECK.sentence(latest, MergeEdgeTest::mergesAsANewObject);
         CHECK.sentence("Answers the number of paths with a conflict.", MergeEdgeTest::answersPaths);
     }
 
@@ -332,6 +352,49 @@ public final class MergeEdgeTest {
         CHECK.due("its conflicts", Scene.conflicts(m), "");
         CHECK.due("what is staged", Scene.staged(m, 16), "none none none");
         CHECK.due("renamed in it", Scene.renames(m, 1), "");
+    }
+
+    /** Of a merge with files and conflicts at a path nothing is left when the trees are empty. */
+    private static void nothingStaysAtAnyPath() {
+        for (int path = 0; path < 64; path++) {
+            int other = (path + 9) % 64;
+            RenameMerge m = Scene.merged(50, path + ":1234", other + ":1235", "");
+            CHECK.due("the conflict at " + other, m.conflict(other), GONE);
+            m.drop(0, path);
+            m.drop(1, other);
+            CHECK.due("paths of empty trees", m.merge(), 0);
+            CHECK.due("the result of empty trees", Scene.tree(m, 3), "");
+            CHECK.due("the conflict", m.conflict(other), 0);
+            CHECK.due("renamed", m.renamed(1, path), NONE);
+            CHECK.due("newPlace", m.newPlace(1, path / 8), NONE);
+            CHECK.due("stands", m.stands(1, other), NONE);
+            Scene.lay(m, 2, other + ":7");
+            Scene.lay(m, 1, other + ":8");
+            m.merge();
+            CHECK.due("what is staged next", Scene.staged(m, other), "none (8) (7)");
+        }
+    }
+
+    /** Texts of all lengths on one object, long before short and short before long, as each on its own. */
+    private static void mergesAsANewObject() {
+        String[][] texts = {{"12345678", "12345679", "a2345678"}, {"122", "132", "1242"}, {"12", "132", "124"},
+            {"11111111", "1111", "211111"}, {"1", "21", "13"}, {"12121212", "2121", "12123212"}, {"", "5", "6"},
+            {"1212", "2123", "1312"}, {"123", "231", "1234"}, {"12341234", "43214321", "12344321"},
+            {"12", "21", "123"}};
+        for (int style = 0; style <= 2; style++) {
+            RenameMerge used = new RenameMerge(50);
+            used.style(style);
+            for (String[] text : texts) {
+                RenameMerge fresh = new RenameMerge(50);
+                fresh.style(style);
+                for (int tree = 0; tree <= 2; tree++) {
+                    used.put(tree, 5, Scene.text(text[tree]), false);
+                    fresh.put(tree, 5, Scene.text(text[tree]), false);
+                }
+                CHECK.due("paths with a conflict", used.merge(), fresh.merge());
+                CHECK.due(text[0] + ", " + text[1] + ", " + text[2], Scene.file(used, 3, 5), Scene.file(fresh, 3, 5));
+            }
+        }
     }
 
     private static void answersPaths() {

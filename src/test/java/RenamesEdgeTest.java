@@ -152,9 +152,13 @@ public final class RenamesEdgeTest {
         expectByName(50, "0:1234", "8:1235", "0>8");
         expectByName(50, "0:1234 16:9", "8:1235", "");
         expectByName(50, "0:1234 16~9", "8:1235", "");
+        expectByName(50, "0:9 16:1234", "8:1235", "");
+        expectByName(50, "0~9 16:1234", "8:1235", "");
         expectByName(50, "0:1234 56:9 16~9", "8:1235", "");
         expectByName(50, "0:1234", "8:1235 16:9", "");
         expectByName(50, "0:1234", "8:1235 16~9", "");
+        expectByName(50, "0:1234", "8:9 16:1235", "");
+        expectByName(50, "0:1234", "8~9 16:1235", "");
         expectByName(50, "0:1234 24:9", "8:1235 16:a", "");
         expectByName(50, "0:1234", "9:1235", "");
         expectByName(50, "0:1234 16:9", "8:1235 16:9", "0>8");
@@ -210,7 +214,8 @@ public final class RenamesEdgeTest {
         CHECK.sentence("for equal scores those with equal names first", RenamesEdgeTest::equalNamesFirst);
         CHECK.sentence("then by rising source", RenamesEdgeTest::risingSource);
         CHECK.sentence("by rising target", RenamesEdgeTest::risingTarget);
-        CHECK.sentence("each pair of which neither path was paired before it is paired.", RenamesEdgeTest::neitherPaired);
+        CHECK.sentence("each pair of which neither path was paired before it is paired.",
+                RenamesEdgeTest::neitherPaired);
     }
 
     /** As many sources and targets as are said; only those at 0 and 15 have a line in common: a score of 50. */

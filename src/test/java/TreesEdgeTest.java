@@ -542,7 +542,8 @@ public final class TreesEdgeTest {
     }
 
     private static void sizes() {
-        RenameMerge m = Scene.merged(50, "", "0:1 1:1 2:1 3:1 4:1 5:1 6:1 7:1", "8:2 9:2 10:2 11:2 12:2 13:2 14:2 63:2");
+        RenameMerge m = Scene.merged(50, "", "0:1 1:1 2:1 3:1 4:1 5:1 6:1 7:1",
+                "8:2 9:2 10:2 11:2 12:2 13:2 14:2 63:2");
         CHECK.due("size(-1)", m.size(-1), NONE);
         CHECK.due("size(0), no file", m.size(0), 0);
         CHECK.due("size(1), a full tree", m.size(1), 8);
