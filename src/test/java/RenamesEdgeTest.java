@@ -136,6 +136,8 @@ public final class RenamesEdgeTest {
                 tree.append(' ').append(24 + (name + i) % 8).append("~2");
             }
             expect(50, base.toString(), tree.toString(), name + ">" + (56 + name));
+            String turned = tree.toString().replace(":1235", ":1234");
+            expect(50, turned, base.toString().replace(":1234", ":1235"), 56 + name + ">" + name);
         }
         expect(50, "0:1234 1:5678 2:9abc 3:def1 4~2 5~3", "8:1235 9:5679 10:9abd 11:def2 38~4 39~5 47~6",
                 "0>8 1>9 2>10 3>11");
